@@ -680,34 +680,30 @@ public final class EngineCell {
                     halt(BY_END);
                     return;
                 }
-                if (!passes()) {
-                    return;
+                switch (program.cell(at, KIND)) {
+                    case HOLD:
+                        spend();
+                        return;
+                    case RAMP:
+                        ramp();
+                        spend();
+                        return;
+                    case WAIT:
+                        if (!isWaitOver()) {
+                            return;
+                        }
+                        break;
+                    case LOOP:
+                        loop();
+                        break;
+                    default:
+                        marks.add(engine.tick + 1);
+                        comeTo(at + 1);
+                        break;
                 }
             }
             // the end is no STEP more
             halt(at < program.count ? BY_LENGTH : BY_END);
-        }
-
-        /** Does the STEP; true: the next one is come to in this TICK. */
-        private boolean passes() {
-            switch (program.cell(at, KIND)) {
-                case HOLD:
-                    spend();
-                    return false;
-                case RAMP:
-                    ramp();
-                    spend();
-                    return false;
-                case WAIT:
-                    return isWaitOver();
-                case LOOP:
-                    loop();
-                    return true;
-                default:
-                    marks.add(engine.tick + 1);
-                    comeTo(at + 1);
-                    return true;
-            }
         }
 
         private void comeTo(int s) {
@@ -735,6 +731,7 @@ public final class EngineCell {
             }
         }
 
+        /** True: the next STEP is come to in this TICK; else the TICK is the WAIT's, or it stopped. */
         private boolean isWaitOver() {
             Channel channel = channels.find(program.cell(at, A));
             if (channel == null) {

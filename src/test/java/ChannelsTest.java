@@ -21,6 +21,7 @@ public final class ChannelsTest {
         latestCorrectionCounts();
         other();
         otherOverSpans();
+        otherOverTwentySpans();
         otherStays();
         readingOfEachSource();
         readingByRateAndDelay();
@@ -299,6 +300,18 @@ public final class ChannelsTest {
         check.due("other(10)", x.other(10), 166);
     }
 
+    private static void otherOverTwentySpans() {
+        EngineCell x = with(4, 0, 0, 0, 0, 2, 0, 0, 3, 0, 30, 0);
+        channel(x, 3, 1, 0, 0, 10000, 0);
+        x.start();
+        x.tick(60);
+        check.due("correct", x.correct(0, 0, 1000, 1), 80);
+        for (int i = 0; i < 80; i++) {
+            check.due("other(" + i + ")", x.other(i), 80 * (i / 4) + 3 + i % 4);
+        }
+        check.due("other(80)", x.other(80), UNKNOWN);
+    }
+
     private static void otherStays() {
         EngineCell x = rising();
         channel(x, 0, 1, 0, 0, 10000, 0);
@@ -349,6 +362,10 @@ public final class ChannelsTest {
         check.due("state(0, 21)", x.state(0, 21), UNKNOWN);
         check.due("reading(0, -3)", x.reading(0, -3), LOST);
         check.due("state(0, -3)", x.state(0, -3), UNKNOWN);
+        EngineCell y = rising();
+        channel(y, 0, 1, 0, 0, 10000, 0);
+        check.due("state(0, -1)", y.state(0, -1), UNKNOWN);
+        check.due("reading(0, -1)", y.reading(0, -1), LOST);
         check.due("reading(2, 0)", x.reading(2, 0), LOST);
         check.due("state(2, 0)", x.state(2, 0), UNKNOWN);
         check.due("reading(-1, 0)", x.reading(-1, 0), LOST);
@@ -369,6 +386,14 @@ public final class ChannelsTest {
             check.due("state(0, " + tick + ")", x.state(0, tick), full[tick]);
         }
         check.dueReport(x, 0, 0, 6, 0, 3, 200, 400, 1900, 3200, 0);
+        EngineCell y = rising();
+        channel(y, 0, 1, 2, 0, 150, 0);
+        y.start();
+        y.tick(5);
+        int[] late = {2, 2, 0, 0, 1, 1};
+        for (int tick = 0; tick < 6; tick++) {
+            check.due("state(0, " + tick + ")", y.state(0, tick), late[tick]);
+        }
     }
 
     private static void stateTellsLostAheadOfFull() {
@@ -511,7 +536,7 @@ public final class ChannelsTest {
         EngineCell x = rising();
         channel(x, 0, 2, 1, 0, 10000, 0);
         x.start();
-        x.tick(4);
+        x.tick(5);
         // x = y = 100, 300 at TICKS 2, 4
         dueLaw(x, 0, 2, 2 * 100000 - 160000, 40000, 0, 0);
     }
@@ -564,6 +589,12 @@ public final class ChannelsTest {
     }
 
     private static void lawEdges() {
+        // x = y = 0, 1: B is 1
+        EngineCell w = with(1, 1, 1, 0);
+        channel(w, 0, 1, 0, 0, 10000, 0);
+        w.start();
+        w.tick(1);
+        dueLaw(w, 0, 2, 1, 1, 0, 0);
         // WANTED SPEED stays 0: B is 0
         EngineCell x = with(0, 9, 0, 0);
         channel(x, 3, 1, 0, 0, 10000, 0);

@@ -12,12 +12,15 @@ public final class EngineTest {
         mapWantsOff();
         torqueAtTheNumbers();
         torqueBetween();
+        torqueBesideTheNumbers();
         torqueIsCutTowardZero();
         torqueOutside();
         lag();
         lagIsUsed();
         engineRises();
         engineFalls();
+        engineAtItsGreatest();
+        smokeOfTheLeastRise();
         speedGoesByOne();
         fuelIsNotBelowZero();
         tickZeroIsNotByTheMap();
@@ -114,6 +117,34 @@ public final class EngineTest {
         check.due("torque(8000, 999)", x.torque(8000, 999), 996);
     }
 
+    private static void torqueBesideTheNumbers() {
+        EngineCell x = new EngineCell();
+        int[] peaks = {-500, 1000, -500, 1000, -500};
+        for (int i = 0; i < 5; i++) {
+            x.map(5 * i, peaks[i]);
+        }
+        check.due("torque(1999, 0)", x.torque(1999, 0), 999);
+        check.due("torque(2001, 0)", x.torque(2001, 0), 999);
+        check.due("torque(4001, 0)", x.torque(4001, 0), -499);
+        check.due("torque(6001, 0)", x.torque(6001, 0), 999);
+        EngineCell y = new EngineCell();
+        for (int j = 0; j < 5; j++) {
+            y.map(j, peaks[j]);
+        }
+        check.due("torque(0, 249)", y.torque(0, 249), 994);
+        check.due("torque(0, 251)", y.torque(0, 251), 994);
+        check.due("torque(0, 501)", y.torque(0, 501), -494);
+        check.due("torque(0, 751)", y.torque(0, 751), 994);
+        EngineCell z = new EngineCell();
+        z.map(7, 1000);
+        check.due("torque(2001, 500)", z.torque(2001, 500), 999);
+        for (int k = 0; k < 25; k++) {
+            z.map(k, k == 6 ? 999 : 1000);
+        }
+        // 2 less than 1000 times 500000
+        check.due("torque(2, 1)", z.torque(2, 1), 999);
+    }
+
     private static void torqueIsCutTowardZero() {
         EngineCell x = new EngineCell();
         x.map(0, -3);
@@ -193,6 +224,26 @@ public final class EngineTest {
         x.tick(1);
         // the first of the last acts; (40 - 42) by 16 is cut to 0
         check.dueTick(x, 4, 800, 0, 40, 41, 75, 800, 0);
+    }
+
+    private static void engineAtItsGreatest() {
+        EngineCell x = new EngineCell();
+        for (int k = 0; k < 25; k++) {
+            x.map(k, 1000);
+        }
+        x.lag(1);
+        running(x, 1, 1, 8000, 1000);
+        x.tick(1);
+        check.dueTick(x, 1, 8000, 1000, 8400, 545, 3000, 8000, 1000);
+    }
+
+    private static void smokeOfTheLeastRise() {
+        EngineCell x = new EngineCell();
+        x.map(0, 1);
+        running(x, 0, 5, 0, 0);
+        x.tick(2);
+        check.due("SMOKE at 1", x.was(1, 4), 3);
+        check.due("SMOKE at 2", x.was(2, 4), 1);
     }
 
     private static void speedGoesByOne() {

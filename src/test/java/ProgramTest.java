@@ -38,6 +38,7 @@ public final class ProgramTest {
         waitByCorrection();
         loopsInLoops();
         loopToItself();
+        loopAsTheLastStep();
         fiftySteps();
         fiftyStepsAndTheEnd();
         fiftyStepsAndAHold();
@@ -530,10 +531,25 @@ public final class ProgramTest {
         EngineCell y = running(3, 0, 49, 0, 0, 2, 0, 0);
         y.tick(1);
         check.dueTold(y, 2, 1, 1, 3, 1);
-        // its count goes on where it was: 3 more, then the end
-        EngineCell z = running(3, 0, 100, 0);
-        z.tick(1);
-        check.dueTold(z, 2, 1, 0, 3, 1);
+        // its count is 0 again with start()
+        EngineCell z = with(3, 0, 60, 0);
+        for (int round = 0; round < 2; round++) {
+            z.start();
+            z.tick(10);
+            check.dueTold(z, 3, 10, 0, 3, 10);
+            z.reset();
+        }
+    }
+
+    private static void loopAsTheLastStep() {
+        EngineCell x = new EngineCell();
+        for (int s = 0; s < 29; s++) {
+            step(x, 0, 1, 0, 0, s);
+        }
+        step(x, 3, 28, 2, 0, 29);
+        x.start();
+        check.due("tick(100)", x.tick(100), 29 + 2 + 10);
+        check.dueTold(x, 3, 41, 30, 0);
     }
 
     private static void fiftySteps() {
