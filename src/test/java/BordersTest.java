@@ -27,6 +27,7 @@ public final class BordersTest {
         waitLooksAheadOfThisTick();
         waitAtTheLastOfItsTicks();
         waitOfALostReading();
+        waitDoesNotLookBehindTheLatest();
         waitByTheLatestReading();
         waitOfNoChannel();
         waitsCountAnew();
@@ -370,6 +371,15 @@ public final class BordersTest {
         y.start();
         y.tick(4);
         check.dueTold(y, 2, 4, 0, 2, 1);
+    }
+
+    private static void waitDoesNotLookBehindTheLatest() {
+        // that of TICK 2 is LOST: that of TICK 1 would do, but isn't the latest one
+        EngineCell x = read(with(0, 2, 0, 0, 2, 0, MIN, 1, 0, 9, 0, 0));
+        x.lose(0, 2, 3);
+        x.start();
+        x.tick(4);
+        check.dueTold(x, 2, 4, 1, 2, 1);
     }
 
     private static void waitByTheLatestReading() {

@@ -24,6 +24,7 @@ public final class ReportBordersTest {
         correctionAtTheWidest();
         correctionOfWhatIsLost();
         otherOfTheLatestOne();
+        otherIsLeftByReset();
         otherRises();
         otherOfAreaAlone();
         otherOfATickThatIsToCome();
@@ -320,6 +321,20 @@ public final class ReportBordersTest {
         dueOthers(x, 4, 5, 6);
         // nothing becomes other by a CORRECTION to the same numbers
         check.due("correct", x.correct(0, 3, 1000, 2), 0);
+        dueOthers(x);
+    }
+
+    private static void otherIsLeftByReset() {
+        // the latest CORRECTION is the same one still, and what it made other then
+        EngineCell x = plain(3);
+        x.correct(0, 0, 1000, 1);
+        x.stop();
+        x.tick(10);
+        x.reset();
+        check.due("told(8)", x.told(8), 1);
+        dueOthers(x, 3, 4, 5, 6);
+        // without SPANS a CORRECTION makes nothing other
+        check.due("correct", x.correct(0, 0, 1000, 2), 0);
         dueOthers(x);
     }
 
